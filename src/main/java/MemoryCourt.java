@@ -572,7 +572,7 @@ public final class MemoryCourt {
         }
 
         void putNumber(int number) {
-            for (int unit = 1_000_000_000; unit > 0; unit /= 10) {
+            for (int unit = 1000000000; unit > 0; unit /= 10) {
                 if (number >= unit || unit == 1) {
                     put('0' + number / unit % 10);
                 }

@@ -220,6 +220,10 @@ public final class SetupTest {
             Check.equal(Check.parsed("pages 9;loan " + word + " 1 1;"), "-1 1 13");
         }
         Check.equal(Check.parsed("pages 9;process page;process asks;process fir;process o;"), "4 0 -1");
+        // One letter beside a quoted word is a name like any other.
+        for (String near : new String[] {"bages", "pagis", "svery", "loam", "aoan", "isk", "asl", "klean", "smell", "ordes"}) {
+            Check.equal(Check.parsed("pages 9;process " + near + ";ask " + near + " 1 1;"), "1 0 -1");
+        }
         Check.equal(Check.parsed("pages 9;process 9;"), "-1 1 16");
         Check.equal(Check.parsed("pages 9;process ab;process a;process ab;"), "-1 3 37");
         Check.equal(Check.parsed("pages 9;process ab;loan a 1 1;"), "-1 3 24");
