@@ -1,5 +1,7 @@
 /** Promises 27 to 35, with what the terms say of ticks, hearings, appeals and changes. */
 public final class ChangeTest {
+    private static final int NO_CHANGE = 8;
+
     public static void main(String[] args) {
         promise27();
         stepsOfATick();
@@ -16,14 +18,6 @@ public final class ChangeTest {
         promise34();
         promise35();
         Check.finish("ChangeTest");
-    }
-
-    private static String pages(MemoryCourt x) {
-        StringBuilder b = new StringBuilder();
-        for (int page = 0; page < x.count(0); page++) {
-            b.append(x.page(page) < 0 ? "." : "" + x.page(page));
-        }
-        return b.toString();
     }
 
     private static void promise27() {
@@ -143,12 +137,12 @@ public final class ChangeTest {
         Check.all("0 1", x.claim(1, 3), x.claim(1, 4));
         Check.all("1 0", x.claim(2, 3), x.claim(2, 4));
         Check.all("0 1", x.claim(3, 3), x.claim(3, 4));
-        Check.equal(pages(x), "012222");
+        Check.equal(Check.pages(x), "012222");
         // small: claim 3 comes before claim 2, which takes back nothing as it lacks more than there is.
         x = Check.court(setup + "order small;" + claims);
         Check.equal(x.run(5), 1);
         Check.all("1 0 2 0", x.claim(3, 3), x.claim(2, 3), x.claim(3, 5), x.count(19));
-        Check.equal(pages(x), "01222.");
+        Check.equal(Check.pages(x), "01222.");
         // clean: the records as the claims begin, ties by number; a barred process in front only waits.
         x = Check.court("pages 9;process p;process q;process r;every 2;base 1;order clean;patience 9;"
             + "loan p 2 1;loan q 1 1;");
@@ -163,13 +157,13 @@ public final class ChangeTest {
         x.ask(1, 1, 9);
         Check.equal(x.run(2), 5);
         Check.all("5 3 6 2 4", x.claim(0, 5), x.claim(1, 5), x.claim(2, 5), x.claim(3, 5), x.claim(4, 5));
-        Check.equal(pages(x), "22234566.");
+        Check.equal(Check.pages(x), "22234566.");
         // The due time counts from the hearing.
         Check.all("13 4 3", x.loan(2, 2), x.loan(2, 3), x.loan(2, 4));
         // Claims that are equally small go by number.
         MemoryCourt y = Check.court("pages 9;process p;every 1;order small;ask p 2 9;ask p 1 9;ask p 2 9;");
         y.run(1);
-        Check.equal(pages(y), "01122....");
+        Check.equal(Check.pages(y), "01122....");
     }
 
     private static void takingBack() {
@@ -179,13 +173,13 @@ public final class ChangeTest {
         MemoryCourt x = Check.court(setup + "ask q 3 9;");
         x.run(10);
         // Two free, and one page of loan 1, its greatest.
-        Check.equal(pages(x), "0001522223344455");
+        Check.equal(Check.pages(x), "0001522223344455");
         Check.all("1 0 0 0 1", x.loan(1, 6), x.loan(0, 6), x.loan(2, 6), x.loan(3, 6), x.count(19));
         Check.equal(x.loan(5, 1), 3);
         x = Check.court(setup + "ask q 11 9;");
         x.run(10);
         // All of loan 1 and 2, then loan 0.
-        Check.equal(pages(x), "5555555553344455");
+        Check.equal(Check.pages(x), "5555555553344455");
         Check.all("2 3 4 0 9", x.loan(1, 6), x.loan(0, 6), x.loan(2, 6), x.loan(3, 6), x.count(19));
         Check.all("0 0 3 1 2", x.loan(0, 1), x.loan(0, 5), x.loan(0, 7), x.count(12), x.loan(3, 1));
         // 13 can be had, 14 cannot: then nothing is taken back.
@@ -193,12 +187,12 @@ public final class ChangeTest {
         Check.all("1 11", x.run(10), x.count(19));
         x = Check.court(setup + "ask q 14 9;ask q 2 9;");
         Check.all("1 0", x.run(10), x.count(19));
-        Check.equal(pages(x), "0001122223344455");
+        Check.equal(Check.pages(x), "0001122223344455");
         // Nothing is taken from a loan at its due time, and none from kept promises.
         x = Check.court("pages 4;process p;process q;every 5;loan p 4 5;ask q 1 9;");
         Check.all("0 0", x.run(5), x.count(19));
         Check.all("1 1", x.run(5), x.count(19));
-        Check.equal(pages(x), "0001");
+        Check.equal(Check.pages(x), "0001");
         // A claim that asks for just what is free takes nothing back.
         x = Check.court("pages 4;process p;process q;every 5;loan p 2 1;ask q 2 9;");
         Check.all("1 0", x.run(5), x.count(19));
@@ -287,20 +281,20 @@ public final class ChangeTest {
     private static void promise30() {
         Check.at("promise 30");
         MemoryCourt x = Check.court("pages 9;process p;loan p 2 9;loan p 4 9;");
-        Check.all("3 00111....", x.giveBack(1, 1), pages(x));
-        Check.all("1 001......", x.giveBack(1, 2), pages(x));
+        Check.all("3 00111....", x.giveBack(1, 1), Check.pages(x));
+        Check.all("1 001......", x.giveBack(1, 2), Check.pages(x));
         Check.noArgument(() -> x.giveBack(1, 2));
         Check.noArgument(() -> x.giveBack(1, 0));
         Check.noArgument(() -> x.giveBack(1, -1));
         Check.noArgument(() -> x.giveBack(1, Integer.MAX_VALUE));
-        Check.all("0 00.......", x.giveBack(1, 1), pages(x));
+        Check.all("0 00.......", x.giveBack(1, 1), Check.pages(x));
         Check.noArgument(() -> x.giveBack(1, 1));
         Check.noArgument(() -> x.giveBack(1, 0));
         Check.noIndex(() -> x.giveBack(2, 1));
         Check.noIndex(() -> x.giveBack(-1, 0));
         Check.all("0 4 0", x.loan(1, 6), x.loan(1, 7), x.count(19));
         // Pages of other loans that lie above stay.
-        Check.all("0 ......... 9", x.giveBack(0, 2), pages(x), x.count(9));
+        Check.all("0 ......... 9", x.giveBack(0, 2), Check.pages(x), x.count(9));
     }
 
     private static void promise31() {
@@ -436,7 +430,7 @@ public final class ChangeTest {
     private static String all(MemoryCourt x) {
         StringBuilder b = new StringBuilder();
         String counts = Check.counts(x);
-        b.append(counts, 0, counts.lastIndexOf(' ')).append('|').append(pages(x));
+        b.append(counts, 0, counts.lastIndexOf(' ')).append('|').append(Check.pages(x));
         for (int i = 0; i < x.count(1); i++) {
             b.append('|').append(Check.processOf(x, i));
         }
@@ -452,23 +446,29 @@ public final class ChangeTest {
         return b.toString();
     }
 
-    private static void promise35() {
-        Check.at("promise 35");
+    /** Some of eleven changes, each kind among them, and some undone; a new court each time for its views. */
+    private static MemoryCourt changed(int changes, int undone) {
         MemoryCourt x = Check.court("pages 9;process p;process q;every 3;fade 4;loan p 2 2;loan q 3 20;ask q 2 5;ask q 9 9;");
-        Check.noState(x::undo);
-        Runnable[] changes = {() -> x.stall(0, 2), () -> x.renew(1, 5), () -> x.run(3), () -> x.appeal(0),
+        Runnable[] all = {() -> x.stall(0, 2), () -> x.renew(1, 5), () -> x.run(3), () -> x.appeal(0),
             () -> x.giveBack(0, 1), () -> x.setOrder(2), () -> x.ask(0, 2, 3), () -> x.withdraw(1), () -> x.run(9),
             () -> x.stall(1, 0), () -> x.setOrder(2)};
-        String[] before = new String[changes.length];
-        for (int i = 0; i < changes.length; i++) {
+        for (int i = 0; i < changes; i++) {
             Check.equal(x.count(20), Math.min(i, 8));
-            before[i] = all(x);
-            changes[i].run();
+            all[i].run();
         }
-        for (int i = 0; i < 8; i++) {
-            Check.all("" + (7 - i) + " " + (7 - i), x.undo(), x.count(20));
-            Check.equal(all(x), before[changes.length - 1 - i]);
+        for (int left = 7; left >= 8 - undone; left--) {
+            Check.all(left + " " + left, x.undo(), x.count(20));
         }
+        return x;
+    }
+
+    private static void promise35() {
+        Check.at("promise 35");
+        Check.noState(changed(0, 0)::undo);
+        for (int undone = 0; undone <= 8; undone++) {
+            Check.equal(all(changed(11, undone)), all(changed(11 - undone, 0)));
+        }
+        MemoryCourt x = changed(11, 8);
         Check.noState(x::undo);
         // A change behind undos goes on from there.
         x.setOrder(1);
@@ -476,7 +476,7 @@ public final class ChangeTest {
         Check.all("1 1", x.undo(), x.count(3));
         x.run(2);
         Check.all("1 0", x.undo(), x.undo());
-        Check.equal(all(x), before[3]);
+        Check.equal(all(x), all(changed(3, 0)));
         Check.noState(x::undo);
         undoneFromTheFirstChange();
         // What fails is no change, nor is a view, a forecast, parse with an error or saving.
@@ -507,26 +507,40 @@ public final class ChangeTest {
 
     /** One change of each kind, undone at once. */
     private static void undoneFromTheFirstChange() {
+        String before = all(oneMore(NO_CHANGE));
+        for (int kind = 0; kind < NO_CHANGE; kind++) {
+            Check.equal(all(oneMore(kind)).equals(before), false);
+            MemoryCourt x = oneMore(kind);
+            Check.equal(x.undo(), 5);
+            Check.equal(all(x), before);
+        }
+        // A tick that was undone and comes again without a stall leaves no trace of the stall.
+        MemoryCourt y = oneMore(NO_CHANGE);
+        y.run(2);
+        y.undo();
+        y.stall(0, 0);
+        y.run(2);
+        Check.all("true false false", y.wasStalled(0, 3), y.wasStalled(0, 4), y.wasStalled(0, 5));
+    }
+
+    private static MemoryCourt oneMore(int kind) {
         MemoryCourt x = Check.court("pages 9;process p;process q;every 3;loan p 2 2;loan q 3 20;");
         x.stall(0, 1);
         x.run(2);
         x.stall(0, 9);
         x.run(1);
         x.ask(1, 9, 9);
-        Runnable[] changes = {() -> x.stall(0, 2), () -> x.renew(1, 5), () -> x.run(3), () -> x.appeal(0),
-            () -> x.giveBack(0, 1), () -> x.setOrder(2), () -> x.ask(0, 2, 3), () -> x.withdraw(0)};
-        for (Runnable change : changes) {
-            String before = all(x);
-            change.run();
-            Check.equal(all(x).equals(before), false);
-            Check.equal(x.undo(), 5);
-            Check.equal(all(x), before);
+        switch (kind) {
+            case 0: x.stall(0, 2); break;
+            case 1: x.renew(1, 5); break;
+            case 2: x.run(3); break;
+            case 3: x.appeal(0); break;
+            case 4: x.giveBack(0, 1); break;
+            case 5: x.setOrder(2); break;
+            case 6: x.ask(0, 2, 3); break;
+            case 7: x.withdraw(0); break;
+            default: break;
         }
-        // A tick that was undone and comes again without a stall leaves no trace of the stall.
-        x.run(2);
-        x.undo();
-        x.stall(0, 0);
-        x.run(2);
-        Check.all("true false false", x.wasStalled(0, 3), x.wasStalled(0, 4), x.wasStalled(0, 5));
+        return x;
     }
 }

@@ -1,3 +1,8 @@
+import java.lang.reflect.Method;
+import java.lang.reflect.Modifier;
+import java.util.Arrays;
+import java.util.Comparator;
+
 /** What the tests of the promises share: courts from a text, and answers compared with those due. */
 final class Check {
     private static int wrong = 0;
@@ -85,8 +90,10 @@ final class Check {
 
     static String output(MemoryCourt court) {
         StringBuilder b = new StringBuilder();
-        for (int i = 0; court.outputByte(i) != MemoryCourt.NONE; i++) {
-            b.append((char) court.outputByte(i));
+        int sign = court.outputByte(0);
+        while (sign != MemoryCourt.NONE) {
+            b.append((char) sign);
+            sign = court.outputByte(b.length());
         }
         return b.toString();
     }
@@ -96,6 +103,15 @@ final class Check {
         StringBuilder b = new StringBuilder();
         for (int what = 0; what <= 20; what++) {
             b.append(what > 0 ? " " : "").append(court.count(what));
+        }
+        return b.toString();
+    }
+
+    /** The loan of each page as one digit, or a point if it is free. */
+    static String pages(MemoryCourt court) {
+        StringBuilder b = new StringBuilder();
+        for (int page = 0; page < court.count(0); page++) {
+            b.append(court.page(page) < 0 ? "." : "" + court.page(page));
         }
         return b.toString();
     }
@@ -130,6 +146,32 @@ final class Check {
             b.append(what > 0 ? " " : "").append(court.process(process, what));
         }
         return b.toString();
+    }
+
+    /** Runs every test of a class: its static methods without parameters and answers. */
+    static void tests(Class<?> c) throws ReflectiveOperationException {
+        Method[] methods = c.getDeclaredMethods();
+        Arrays.sort(methods, Comparator.comparing(Method::getName));
+        int count = 0;
+        for (Method m : methods) {
+            if (Modifier.isStatic(m.getModifiers()) && m.getParameterCount() == 0 && m.getReturnType() == void.class
+                    && !m.isSynthetic()) {
+                at(c.getName() + "." + m.getName());
+                m.setAccessible(true);
+                m.invoke(null);
+                count++;
+            }
+        }
+        finish(c.getName() + ", " + count + " tests");
+    }
+
+    /** Lets as many ticks pass, in as many calls as that needs. */
+    static int pass(MemoryCourt court, int ticks) {
+        int met = 0;
+        for (int left = ticks; left > 0; left -= 500) {
+            met += court.run(Math.min(left, 500));
+        }
+        return met;
     }
 
     private static String caller() {

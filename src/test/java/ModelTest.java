@@ -3,11 +3,13 @@
  * The runs come from a counter, so every run of this test is the same.
  */
 public final class ModelTest {
-    private static final int RUNS = 200;
-    private static final int CALLS = 400;
+    private static final int RUNS = 2000;
+    // An object is used for at most so many calls.
+    private static final int CALLS = 512;
     private static final int KINDS = 43;
 
     private static long seed;
+    private static int used;
 
     private static int below(int bound) {
         seed = seed * 6364136223846793005L + 1442695040888963407L;
@@ -52,39 +54,69 @@ public final class ModelTest {
     private static boolean agree(int run) {
         MemoryCourt court = new MemoryCourt();
         ModelCourt model = new ModelCourt();
+        used = 0;
         boolean calm = below(2) == 0;
+        int views = oneOf(8, 40, 400);
         StringBuilder story = new StringBuilder();
-        for (int call = 0; call < CALLS; call++) {
-            int kind = below(30) == 0 || call == 0 ? -1 : calm && below(3) > 0 ? oneOf(18, 19, 19, 22, 23, 25) : below(KINDS);
-            String got, want;
-            String told;
-            if (kind == -1) {
-                if (call != 0 && below(3) > 0) {
-                    continue;
-                }
-                String text = spoilt(setup());
-                feed(court, model, text);
-                told = "parse " + text;
-                got = "" + court.parse() + " " + court.errorCode() + " " + court.errorOffset();
-                want = "" + model.parse() + " " + model.code + " " + model.offset;
+        boolean alike = parsedAlike(court, model, story);
+        while (alike && used < CALLS) {
+            if (below(90) == 0) {
+                alike = parsedAlike(court, model, story);
+            } else if (below(views) == 0) {
+                alike = looksAlike(court, model, story);
             } else {
-                int a = first(kind, model), b = second(kind, model), c = third(kind);
-                told = kind + "(" + a + ", " + b + ", " + c + ")";
-                got = answer(court, kind, a, b, c);
-                want = answer(model, kind, a, b, c);
+                int kind = calm && below(3) > 0 ? oneOf(18, 19, 19, 22, 23, 25) : below(KINDS);
+                alike = answersAlike(court, model, kind, first(kind, model), second(kind, model), third(kind), story);
             }
-            story.append(told).append(" = ").append(want).append('\n');
-            if (got.equals(want) && below(8) == 0) {
-                String[] gotLines = view((k, a, b, c) -> answer(court, k, a, b, c), model);
-                String[] wantLines = view((k, a, b, c) -> answer(model, k, a, b, c), model);
-                for (int i = 0; i < gotLines.length && got.equals(want); i++) {
-                    got = gotLines[i];
-                    want = wantLines[i];
+        }
+        if (!alike) {
+            System.out.println("run " + run + ":\n" + story);
+        }
+        return alike;
+    }
+
+    private static boolean parsedAlike(MemoryCourt court, ModelCourt model, StringBuilder story) {
+        String text = spoilt(setup());
+        if (used + 35 > CALLS) {
+            used = CALLS;
+            return true;
+        }
+        feed(court, model, text);
+        used += 3;
+        return told(story, "parse " + text, court.parse() + " " + court.errorCode() + " " + court.errorOffset(),
+            model.parse() + " " + model.code + " " + model.offset);
+    }
+
+    private static boolean answersAlike(MemoryCourt court, ModelCourt model, int kind, int a, int b, int c, StringBuilder story) {
+        // Some kinds ask two things.
+        used += 2;
+        return used > CALLS
+            || told(story, kind + "(" + a + ", " + b + ", " + c + ")", answer(court, kind, a, b, c), answer(model, kind, a, b, c));
+    }
+
+    private static boolean told(StringBuilder story, String call, String got, String due) {
+        story.append(call).append(" = ").append(due).append('\n');
+        if (!got.equals(due)) {
+            story.append("but answered ").append(got).append('\n');
+        }
+        return got.equals(due);
+    }
+
+    /** Compares all that can be seen of some kinds, as far as calls are left. */
+    private static boolean looksAlike(MemoryCourt court, ModelCourt model, StringBuilder story) {
+        int[] kinds = {0, 1, 2, 3, 6, 8, 9, 7, 36, 37, 38};
+        for (int kind : kinds) {
+            if (below(3) > 0) {
+                continue;
+            }
+            boolean many = kind == 1 || kind == 2 || kind == 6 || kind == 8;
+            for (int i = 0; i < size(kind, model); i++) {
+                for (int what = 0; what < (many ? 10 : 1); what++) {
+                    used -= 1;
+                    if (!answersAlike(court, model, kind, fineOr(kind, i, model), what, 0, story)) {
+                        return false;
+                    }
                 }
-            }
-            if (!got.equals(want)) {
-                System.out.println(story + "run " + run + ": " + told + " answered " + got + ", due is " + want);
-                return false;
             }
         }
         return true;
@@ -163,10 +195,12 @@ public final class ModelTest {
                 w[j / 4] = w[j / 4] << 8 | (i + j < text.length() ? text.charAt(i + j) : 0);
             }
             court.feed(w[0], w[1], w[2], w[3], w[4]);
+            used++;
             model.feed(w[0], w[1], w[2], w[3], w[4]);
         }
         court.truncate(text.length());
         model.truncate(text.length());
+        used += 2;
     }
 
     // ---- arguments, fit for the state that the model is in
@@ -328,27 +362,6 @@ public final class ModelTest {
                 default: return b == 0 ? "" + x.find() : "" + x.feed(a, b, c, a, b);
             }
         });
-    }
-
-    private interface Asked {
-        String answer(int kind, int a, int b, int c);
-    }
-
-    /** All that can be seen of a court, in lines; the model tells how many there are of each kind. */
-    private static String[] view(Asked court, ModelCourt sizes) {
-        int[] kinds = {0, 1, 2, 3, 6, 8, 9, 7, 36, 37, 38};
-        String[] lines = new String[kinds.length];
-        for (int k = 0; k < kinds.length; k++) {
-            int kind = kinds[k];
-            StringBuilder b = new StringBuilder("kind " + kind + ":");
-            for (int i = 0; i < size(kind, sizes); i++) {
-                for (int what = 0; what < (kind == 1 || kind == 2 || kind == 6 || kind == 8 ? 10 : 1); what++) {
-                    b.append(' ').append(court.answer(kind, fineOr(kind, i, sizes), what, 0));
-                }
-            }
-            lines[k] = b.toString();
-        }
-        return lines;
     }
 
     private static int fineOr(int kind, int i, ModelCourt m) {

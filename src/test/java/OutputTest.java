@@ -91,59 +91,90 @@ public final class OutputTest {
         return b.toString();
     }
 
-    private static void promises47And48() {
-        Check.at("promises 47 and 48");
+    /** A court behind the first steps of one story; a new one each time, as one has not calls for all views. */
+    private static MemoryCourt behind(int steps) {
         MemoryCourt x = Check.court("pages 9;process p;process q;every 3;fade 4;loan p 2 2;loan q 3 20;ask q 2 5;ask q 9 9;");
         Check.noState(x::restoreState);
         x.stall(0, 3);
         x.run(4);
         x.appeal(0);
         x.setOrder(2);
-        String saved = all(x);
-        Check.all("4 4", x.saveState(), x.count(20));
-        // The changes go on and can be undone, also those before the saving.
-        x.stall(1, 9);
-        x.run(20);
-        x.undo();
-        x.undo();
-        x.undo();
-        x.undo();
-        x.undo();
-        Check.all("1 0 false", x.count(20), x.count(2), x.wasStalled(0, 1));
-        x.stall(0, 0);
-        x.stall(1, 5);
-        x.run(9);
-        x.giveBack(1, 1);
-        x.setOrder(1);
-        x.printProcess(0);
-        String out = Check.output(x);
-        Check.input(x, "q");
-        Check.all("4 0", x.restoreState(), x.count(20));
-        Check.equal(all(x), saved);
-        Check.noState(x::undo);
+        for (int step = 1; step <= steps; step++) {
+            take(x, step);
+        }
+        return x;
+    }
+
+    private static void take(MemoryCourt x, int step) {
+        switch (step) {
+            case 1:
+                Check.all("4 4", x.saveState(), x.count(20));
+                break;
+            case 2:
+                // The changes go on and can be undone, also those before the saving.
+                x.stall(1, 9);
+                x.run(20);
+                Check.all("5 4 3 2 1", x.undo(), x.undo(), x.undo(), x.undo(), x.undo());
+                Check.all("1 0 false", x.count(20), x.count(2), x.wasStalled(0, 1));
+                break;
+            case 3:
+                x.stall(0, 0);
+                x.stall(1, 5);
+                x.run(9);
+                x.giveBack(1, 1);
+                x.setOrder(1);
+                x.printProcess(0);
+                Check.input(x, "q");
+                break;
+            case 4:
+                Check.all("4 0", x.restoreState(), x.count(20));
+                break;
+            case 5:
+                // The state stays saved.
+                x.run(5);
+                Check.all("4 0", x.restoreState(), x.count(20));
+                break;
+            case 6:
+                x.run(7);
+                break;
+            case 7:
+                // In place of an earlier one.
+                Check.all("11 1 0", x.saveState(), x.count(20), x.undo());
+                break;
+            case 8:
+                Check.all("11 0", x.restoreState(), x.count(20));
+                break;
+            default:
+                break;
+        }
+    }
+
+    private static void promises47And48() {
+        Check.at("promises 47 and 48");
+        String saved = all(behind(0)), later = all(behind(6));
+        int[] steps = {1, 4, 5, 7};
+        for (int step : steps) {
+            Check.equal(all(behind(step)), saved);
+        }
+        Check.equal(all(behind(8)), later);
+        Check.equal(later.equals(saved), false);
+        Check.equal(all(behind(3)).equals(saved), false);
+        Check.noState(behind(4)::undo);
+        Check.noState(behind(5)::undo);
+        Check.noState(behind(8)::undo);
+        // The buffer, the error and the output stay.
+        MemoryCourt before = behind(3), x = behind(4);
+        Check.equal(Check.output(x), Check.output(before));
         Check.all("0 -1 1", x.errorCode(), x.errorOffset(), x.find());
-        Check.equal(Check.output(x), out);
-        // The state stays saved.
-        x.run(5);
-        Check.all("4", x.restoreState());
-        Check.equal(all(x), saved);
-        Check.noState(x::undo);
-        // In place of an earlier one.
-        x.run(7);
-        String later = all(x);
-        Check.all("11 1", x.saveState(), x.count(20));
-        x.undo();
-        Check.equal(all(x), saved);
-        Check.all("11 0", x.restoreState(), x.count(20));
-        Check.equal(all(x), later);
-        x.stall(0, 1);
-        Check.all("1 0", x.count(20), x.undo());
+        MemoryCourt y = behind(8);
+        y.stall(0, 1);
+        Check.all("1 0", y.count(20), y.undo());
         // parse forgets it only when it succeeds; the error stays.
-        Check.input(x, "pages 1;");
-        Check.all("-1 11 2 6", x.parse(), x.restoreState(), x.errorCode(), x.errorOffset());
-        Check.input(x, "pages 4;");
-        Check.equal(x.parse(), 0);
-        Check.noState(x::restoreState);
-        Check.all("0 0", x.saveState(), x.restoreState());
+        Check.input(y, "pages 1;");
+        Check.all("-1 11 2 6", y.parse(), y.restoreState(), y.errorCode(), y.errorOffset());
+        Check.input(y, "pages 4;");
+        Check.equal(y.parse(), 0);
+        Check.noState(y::restoreState);
+        Check.all("0 0", y.saveState(), y.restoreState());
     }
 }
