@@ -390,6 +390,35 @@ public final class CallEdgeTest {
         Check.all("0 0 90", x.undo(), x.count(2), x.loan(1, 2));
     }
 
+    // Undoes the latest change: loans, claims, fines and pages that it made, met, put off or took back are as before
+    private static void undoOfARun() {
+        String text = "pages 9;process p;process q;every 2;patience 1;base 100;loan p 4 1;loan q 2 9;ask q 5 9;ask q 9 9;";
+        MemoryCourt x = Check.court(text), fresh = Check.court(text);
+        x.stall(0, 2);
+        x.run(2);
+        Check.equal(Check.counts(x), "9 2 2 0 2 100 20 1 10 0 3 3 1 2 0 1 1 1 1 2 2");
+        Check.equal(x.undo(), 1);
+        fresh.stall(0, 2);
+        Check.equal(Check.counts(x), Check.counts(fresh));
+        Check.all(Check.pages(fresh) + " " + Check.processOf(fresh, 0) + "|" + Check.processOf(fresh, 1),
+            Check.pages(x), Check.processOf(x, 0) + "|" + Check.processOf(x, 1));
+        Check.all(Check.loanOf(fresh, 0) + "|" + Check.loanOf(fresh, 1), Check.loanOf(x, 0) + "|" + Check.loanOf(x, 1));
+        Check.all(Check.claimOf(fresh, 0) + "|" + Check.claimOf(fresh, 1), Check.claimOf(x, 0) + "|" + Check.claimOf(x, 1));
+        Check.noIndex(() -> x.loan(2, 0));
+        Check.noElement(() -> x.fine(0, 0));
+        Check.all("false 0 -1 0.0 0.0 -1", x.wasStalled(0, 1), x.overdue(), x.firstBroken(), x.meanLate(), x.metShare(), x.worst());
+        Check.all("2 0", x.process(0, 2), x.undo());
+        Check.equal(x.process(0, 2), 0);
+        // What a saved court took back, and lent, is not that of the court that is restored.
+        MemoryCourt y = Check.court(text);
+        y.saveState();
+        y.run(2);
+        y.restoreState();
+        Check.all("0 2 2 0 -1", y.count(19), y.count(10), y.count(11), y.overdue(), y.firstBroken());
+        y.run(1);
+        Check.all("0 0 0", y.count(12), y.overdue(), y.count(18));
+    }
+
     // Changes are ... when they succeed.
     private static void whatIsNoChange() {
         MemoryCourt x = behind(4, "pages 9;process p;process q;every 4;base 100;loan p 1 2;loan q 2 90;ask q 9 9;");

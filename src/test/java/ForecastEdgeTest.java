@@ -140,6 +140,21 @@ public final class ForecastEdgeTest {
         Check.all("1200 999", y.wouldPay(0), y.processIn(0, 50, 1));
     }
 
+    // ... at the next hearing: that one, and no tick more
+    private static void nextHearingIsOneHearing() {
+        MemoryCourt x = Check.court("pages 9;process p;process q;every 1;base 100;fade 99;loan p 1 1;ask q 9 9;");
+        // At 1 the loan is not broken yet, so its page would have to be given back; at 2 it would be taken back.
+        Check.all("0 0 1 2", x.wouldFine(0), x.wouldPay(0), x.helps(0, 0), x.metIn(0, 9));
+        x.run(1);
+        // At 2 one hundredth of 100, at 3 of 101.
+        Check.all("1 1 0", x.wouldFine(0), x.wouldPay(0), x.helps(0, 0));
+        // At the hearing itself the next one is meant.
+        MemoryCourt y = behind(5, "pages 9;process p;process q;base 100;fade 99;loan p 1 4;ask q 9 9;");
+        Check.all("1 1 0 0", y.fine(0, 5), y.claim(0, 3), y.wouldFine(0), y.wouldPay(0));
+        MemoryCourt z = behind(5, "pages 9;process p;base 100;fade 99;loan p 1 4;");
+        Check.all("1 6 6", z.fine(0, 5), z.wouldFine(0), z.wouldPay(0));
+    }
+
     // ---- promises 40 to 42
 
     // ticks: 1 to 500.  Throws IllegalArgumentException if ticks is out of range
@@ -198,6 +213,9 @@ public final class ForecastEdgeTest {
         first.ask(1, 2, 90);
         first.setOrder(1);
         Check.all("0 1", first.bestOrder(6), first.count(3));
+        // The claims of all hearings count, not only those of the last one: the small ones come at once.
+        MemoryCourt sum = Check.court("pages 6;process p;process q;every 3;patience 1;ask p 5 1;ask q 3 9;ask q 3 9;");
+        Check.all("1 1", sum.bestOrder(3), sum.bestOrder(9));
         for (int ticks : NO_TICKS) {
             Check.noArgument(() -> first.bestOrder(ticks));
         }

@@ -504,6 +504,38 @@ public final class TextEdgeTest {
         Check.equal(Check.fineOf(x, 0), "0 0 4 1 3 1 0 1");
     }
 
+    // On success everything but the output is as at first, however long the court was used before.
+    private static void parseBeginsAnewBehindLongUse() {
+        String used = "pages 64;process p;process q;every 1;base 100;patience 1;order clean;loan p 9 1;loan p 9 1;ask q 40 90;ask q 64 1;ask q 1 1;ask p 2 1;";
+        String text = "pages 9;process r;process s;every 5;loan r 1 4;loan s 2 6;ask s 8 9;ask s 1 9;";
+        MemoryCourt x = Check.court(used), fresh = Check.court(text);
+        x.stall(0, 99);
+        x.run(50);
+        x.undo();
+        x.run(1);
+        x.freeIn(500);
+        x.wouldPay(0);
+        Check.input(x, text);
+        Check.equal(x.parse(), 2);
+        for (int ticks = 0; ticks <= 10; ticks += 5) {
+            Check.equal(Check.counts(x), Check.counts(fresh));
+            for (int i = 0; i < 2; i++) {
+                Check.equal(Check.processOf(x, i), Check.processOf(fresh, i));
+                Check.equal(Check.loanOf(x, i), Check.loanOf(fresh, i));
+                Check.equal(Check.claimOf(x, i), Check.claimOf(fresh, i));
+            }
+            Check.all("false false false", x.wasStalled(0, 1), x.wasStalled(0, ticks), x.wasStalled(0, 50));
+            Check.all(fresh.overdue() + " " + fresh.firstBroken() + " " + fresh.meanLate() + " " + fresh.worst(), x.overdue(),
+                x.firstBroken(), x.meanLate(), x.worst());
+            Check.all(x.printProcess(0) + Check.output(x), fresh.printProcess(0) + Check.output(fresh));
+            Check.all(fresh.wouldPay(0) + " " + fresh.wouldPay(1), x.wouldPay(0), x.wouldPay(1));
+            Check.all(fresh.wouldFine(0) + " " + fresh.wouldFine(1), x.wouldFine(0), x.wouldFine(1));
+            Check.all(x.run(5) + " " + x.count(20), fresh.run(5), fresh.count(20));
+        }
+        Check.equal(Check.fineOf(x, 0), "0 0 1 4 5 1 0 1");
+        Check.equal(x.evidence(0), 0);
+    }
+
     // NONE if the text has an error, in which case everything but the buffer and the error is kept.
     private static void parseWithAnErrorKeepsAll() {
         for (String text : new String[] {"", "pages 3;", "pages 64;process z;every 1;ask z 1 1;loan z 9 9;process z;", "pages 9;every"}) {

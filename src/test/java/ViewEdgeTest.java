@@ -58,6 +58,19 @@ public final class ViewEdgeTest {
         Check.all("3 0 1 1", x.count(13), x.count(14), x.count(15), x.count(16));
     }
 
+    // Numbers of the court count those of all processes, the last one, too.
+    private static void countOfAllProcesses() {
+        MemoryCourt x = behind(2, "pages 20;process p;process q;every 2;patience 1;loan q 2 1;loan p 1 1;loan q 3 2;loan p 1 2;ask q 1 1;ask p 1 1;");
+        x.ask(1, 9, 1);
+        x.ask(0, 9, 1);
+        x.run(1);
+        Check.all("4 4 4 2 0 2 2", x.count(10), x.count(11), x.count(12), x.count(14), x.count(15), x.count(16), x.count(18));
+        Check.all("2 2 2 2", x.process(0, 4), x.process(1, 4), x.process(0, 5), x.process(1, 5));
+        Check.all("7 0 1.5 0.0", x.overdue(), x.firstBroken(), x.meanLate(), x.metShare());
+        MemoryCourt y = behind(2, "pages 20;process p;process q;every 2;ask q 1 1;ask p 1 1;ask q 1 1;");
+        Check.all("3 1 2 1.0", y.count(15), y.process(0, 7), y.process(1, 7), y.metShare());
+    }
+
     // 18 fines, known or not
     private static void countOfFinesKnownOrNot() {
         MemoryCourt x = behind(1, "pages 4;process p;every 1;loan p 1 1;");
@@ -455,6 +468,8 @@ public final class ViewEdgeTest {
         Check.equal(y.worst(), 1);
         y = behind(2, "pages 9;process p;process q;process r;every 2;fade 3;loan p 2 1;loan q 2 1;loan r 3 1;");
         Check.equal(y.worst(), 2);
+        y = behind(2, "pages 9;process p;process q;process r;every 2;fade 3;loan p 3 1;loan q 1 1;loan r 2 1;");
+        Check.equal(y.worst(), 0);
         // The last of eight.
         y = behind(2, "pages 9;process a;process b;process c;process d;process e;process f;process g;process h;every 2;loan h 1 1;");
         Check.equal(y.worst(), 7);
@@ -493,7 +508,8 @@ public final class ViewEdgeTest {
         Check.equal(x.metShare(), 0.25f);
         MemoryCourt y = behind(1, "pages 9;process p;every 1;patience 1;loan p 9 9;ask p 1 9;");
         Check.equal(y.metShare(), 0.0f);
-        MemoryCourt z = behind(1, "pages 9;process p;every 1;patience 1;ask p 1 9;ask p 1 9;ask p 9 9;");
+        // Of all processes.
+        MemoryCourt z = behind(1, "pages 9;process p;process q;every 1;patience 1;ask q 1 9;ask p 1 9;ask q 9 9;");
         Check.equal(z.metShare(), 2.0f / 3.0f);
     }
 }
