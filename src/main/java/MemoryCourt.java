@@ -1522,12 +1522,12 @@ public final class MemoryCourt {
                 courts[next] = kept;
             }
             kept.copyFrom(court);
-            next = (next + 1) % KEPT_CHANGES;
+            next = Math.floorMod(next + 1, KEPT_CHANGES);
             count = Math.min(KEPT_CHANGES, count + 1);
         }
 
         void bringBack(Court court) {
-            next = (next + KEPT_CHANGES - 1) % KEPT_CHANGES;
+            next = Math.floorMod(next - 1, KEPT_CHANGES);
             count--;
             Court kept = courts[next];
             if (kept != null) {
