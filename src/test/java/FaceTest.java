@@ -10,25 +10,13 @@ import java.util.ArrayList;
 import java.util.List;
 import java.util.Set;
 import java.util.TreeSet;
+import java.util.regex.Matcher;
 import java.util.regex.Pattern;
 
 /** The public face as the document writes it, and the rules of LANGUAGE.md that a short look can test. */
 public final class FaceTest {
-    private static final String[] FACE = {
-        "int feed(int,int,int,int,int)", "boolean truncate(int)", "int parse()", "int errorCode()", "int errorOffset()",
-        "int count(int)", "int find()", "int process(int,int) IOB", "int loan(int,int) IOB", "int page(int) IOB",
-        "int pageOf(int,int) IOB NSE", "int pieces(int) IOB", "int longestFree()", "int claim(int,int) IOB",
-        "int waiting(int) NSE", "int fine(int,int) IAE NSE", "int evidence(int) NSE", "boolean wasStalled(int,int) IOB",
-        "int nextHearing()", "int shortage()", "int overdue()", "int firstBroken()", "int worst()", "double meanLate()",
-        "float metShare()", "int run(int) IAE ISE", "int ask(int,int,int) IOB IAE ISE", "int withdraw(int) IOB ISE",
-        "int giveBack(int,int) IOB IAE", "int renew(int,int) IOB IAE ISE", "int stall(int,int) IOB IAE",
-        "int appeal(int) ISE NSE", "int setOrder(int) IAE", "int undo() ISE", "int metIn(int,int) IOB IAE",
-        "int refusedIn(int,int) IOB IAE", "int wouldFine(int) IOB", "int wouldPay(int) IOB", "int freeIn(int) IAE",
-        "int processIn(int,int,int) IOB IAE", "int bestOrder(int) IAE", "int helps(int,int) IOB", "int wouldAppeal(int) NSE",
-        "int printProcess(int) IOB", "int outputByte(int)", "int saveState()", "int restoreState() ISE"};
-
-    private static final String[] CONSTANTS = {"NONE=-1", "FIRST=0", "SMALL=1", "CLEAN=2", "WAITS=0", "MET=1", "REFUSED=2",
-        "WITHDRAWN=3"};
+    private static final Path DOCUMENT = Path.of("../shared/DOC.md");
+    private static final Path PROGRAM = Path.of("src/main/java/MemoryCourt.java");
 
     // What rules 4, 6, 8 and 10 shut out, as it would stand in the source.
     private static final String[] SHUT_OUT = {"->", "::", "\\bpackage\\b", "\\bsynchronized\\b", "\\bassert\\b", "\\bfinally\\b",
@@ -37,33 +25,83 @@ public final class FaceTest {
         "\\bArrays\\.(?!fill|copyOf)", "\\bwhile\\b", "\\brecord\\s+\\w+\\("};
 
     public static void main(String[] args) throws Exception {
+        Set<String> constants = new TreeSet<>(), methods = new TreeSet<>();
+        readFace(constants, methods);
         Check.at("the face");
-        Check.equal(methods(), new TreeSet<>(List.of(FACE)));
-        Check.equal(constants(), new TreeSet<>(List.of(CONSTANTS)));
-        Check.equal(Modifier.isFinal(MemoryCourt.class.getModifiers()), true);
-        Check.equal(MemoryCourt.class.getPackageName(), "");
-        nothingElse();
+        Check.all("8 47", constants.size(), methods.size());
+        Check.equal(constants(), constants);
+        Check.equal(methods(), methods);
+        Check.equal(headings(), names(methods));
+        theClass();
+        nothingElse(names(methods));
+        sizes();
         source();
         Check.finish("FaceTest");
     }
+
+    // ---- what the document says
+
+    /** Reads the section "The public face": a constant as "NONE = -1", a method as "int page(int) throws X". */
+    private static void readFace(Set<String> constants, Set<String> methods) throws IOException {
+        String text = Files.readString(DOCUMENT, StandardCharsets.UTF_8);
+        int from = text.indexOf("public final class MemoryCourt {", text.indexOf("## The public face"));
+        String face = text.substring(from, text.indexOf("\n}", from));
+        Pattern method = Pattern.compile("public (\\w+) (\\w+)\\((.*?)\\)(?: throws (.*))?;");
+        for (String line : face.split("\n")) {
+            String told = line.trim();
+            Matcher m = method.matcher(told);
+            if (told.startsWith("public static final int ")) {
+                for (String each : told.substring(24, told.length() - 1).split(", ")) {
+                    constants.add("int " + each);
+                }
+            } else if (m.matches()) {
+                String parameters = m.group(3).replaceAll(" \\w+(,|$)", "$1");
+                methods.add(m.group(1) + " " + m.group(2) + "(" + parameters + ")" + (m.group(4) == null ? "" : " throws " + m.group(4)));
+            } else if (!told.equals("public final class MemoryCourt {")) {
+                Check.equal(told, "public MemoryCourt();");
+            }
+        }
+    }
+
+    /** The names in the headings of the promises, apart from the first one, a new object. */
+    private static Set<String> headings() throws IOException {
+        Set<String> names = new TreeSet<>();
+        for (String line : Files.readAllLines(DOCUMENT, StandardCharsets.UTF_8)) {
+            if (line.startsWith("## Promise ") && !line.startsWith("## Promise 1:")) {
+                names.add(line.substring(line.indexOf(": ") + 2));
+            }
+        }
+        return names;
+    }
+
+    private static Set<String> names(Set<String> methods) {
+        Set<String> names = new TreeSet<>();
+        for (String method : methods) {
+            names.add(method.substring(method.indexOf(' ') + 1, method.indexOf('(')));
+        }
+        return names;
+    }
+
+    // ---- what the class has
 
     private static Set<String> methods() {
         Set<String> found = new TreeSet<>();
         for (Method m : MemoryCourt.class.getDeclaredMethods()) {
             if (Modifier.isPublic(m.getModifiers()) && !m.isSynthetic()) {
-                List<String> parameters = new ArrayList<>();
-                for (Class<?> p : m.getParameterTypes()) {
-                    parameters.add(p.getName());
-                }
-                StringBuilder b = new StringBuilder(m.getReturnType() + " " + m.getName() + "(" + String.join(",", parameters) + ")");
-                for (Class<?> e : m.getExceptionTypes()) {
-                    b.append(e == IndexOutOfBoundsException.class ? " IOB" : e == IllegalArgumentException.class ? " IAE"
-                        : e == IllegalStateException.class ? " ISE" : e == java.util.NoSuchElementException.class ? " NSE" : " " + e);
-                }
-                found.add(b.toString());
+                Check.equal(m.getName() + Modifier.isStatic(m.getModifiers()), m.getName() + false);
+                found.add(m.getReturnType() + " " + m.getName() + "(" + listed(m.getParameterTypes()) + ")"
+                    + (m.getExceptionTypes().length > 0 ? " throws " + listed(m.getExceptionTypes()) : ""));
             }
         }
         return found;
+    }
+
+    private static String listed(Class<?>[] types) {
+        List<String> names = new ArrayList<>();
+        for (Class<?> type : types) {
+            names.add(type.getSimpleName());
+        }
+        return String.join(", ", names);
     }
 
     private static Set<String> constants() throws IllegalAccessException {
@@ -71,18 +109,24 @@ public final class FaceTest {
         for (Field f : MemoryCourt.class.getDeclaredFields()) {
             if (Modifier.isPublic(f.getModifiers())) {
                 boolean constant = Modifier.isStatic(f.getModifiers()) && Modifier.isFinal(f.getModifiers());
-                found.add(f.getName() + (constant && f.getType() == int.class ? "=" + f.get(null) : " is no constant"));
+                found.add(f.getType() + " " + f.getName() + (constant ? " = " + f.get(null) : " is no constant"));
             }
         }
         return found;
     }
 
-    private static void nothingElse() {
+    private static void theClass() {
+        Class<?> c = MemoryCourt.class;
+        Check.all("true true", Modifier.isFinal(c.getModifiers()), Modifier.isPublic(c.getModifiers()));
+        Check.all("java.lang.Object 0 0 ", c.getSuperclass().getName(), c.getInterfaces().length, c.getTypeParameters().length,
+            c.getPackageName());
+        Constructor<?>[] constructors = c.getDeclaredConstructors();
+        Check.all("1 0 0 true", constructors.length, constructors[0].getParameterCount(), constructors[0].getExceptionTypes().length,
+            Modifier.isPublic(constructors[0].getModifiers()));
+    }
+
+    private static void nothingElse(Set<String> names) {
         Check.at("rule 1");
-        Set<String> names = new TreeSet<>();
-        for (String method : FACE) {
-            names.add(method.substring(method.indexOf(' ') + 1, method.indexOf('(')));
-        }
         for (Method m : MemoryCourt.class.getDeclaredMethods()) {
             if (!Modifier.isPublic(m.getModifiers()) && !m.isSynthetic()) {
                 Check.equal(m.getName() + Modifier.isPrivate(m.getModifiers()), m.getName() + true);
@@ -94,15 +138,50 @@ public final class FaceTest {
             Check.equal(f.getName() + known, f.getName() + true);
         }
         for (Class<?> c : MemoryCourt.class.getDeclaredClasses()) {
-            Check.equal(c.getName() + Modifier.isStatic(c.getModifiers()), c.getName() + true);
-            Check.equal(c.getName() + Modifier.isPublic(c.getModifiers()), c.getName() + false);
+            int modifiers = c.getModifiers();
+            Check.equal(c.getName() + Modifier.isStatic(modifiers), c.getName() + true);
+            Check.equal(c.getName() + (Modifier.isPublic(modifiers) || Modifier.isProtected(modifiers)), c.getName() + false);
+            for (Method m : c.getDeclaredMethods()) {
+                boolean hidden = Modifier.isPrivate(m.getModifiers()) && names.contains(m.getName());
+                Check.equal(c.getName() + m.getName() + hidden, c.getName() + m.getName() + false);
+            }
         }
-        Constructor<?>[] constructors = MemoryCourt.class.getDeclaredConstructors();
-        Check.all("1 0", constructors.length, constructors[0].getParameterCount());
+    }
+
+    private static void sizes() throws IOException {
+        Check.at("rules 5 and 11");
+        List<Class<?>> classes = new ArrayList<>(List.of(MemoryCourt.class.getDeclaredClasses()));
+        classes.add(MemoryCourt.class);
+        Check.equal(classes.size() <= 12, true);
+        for (Class<?> c : classes) {
+            int fields = 0;
+            for (Field f : c.getDeclaredFields()) {
+                boolean constant = Modifier.isStatic(f.getModifiers()) && Modifier.isFinal(f.getModifiers());
+                Check.equal(f.getName() + (constant || !Modifier.isStatic(f.getModifiers())), f.getName() + true);
+                fields += constant ? 0 : 1;
+            }
+            Check.equal(c.getName() + (fields <= 20), c.getName() + true);
+            for (Method m : c.getDeclaredMethods()) {
+                Check.equal(m.getName() + (m.getParameterCount() <= 7), m.getName() + true);
+            }
+        }
+        // A method ends with a brace below the beginning of its line.
+        List<String> lines = Files.readAllLines(PROGRAM, StandardCharsets.ISO_8859_1);
+        for (int i = 0; i < lines.size(); i++) {
+            String line = lines.get(i);
+            String margin = line.substring(0, line.length() - line.stripLeading().length());
+            if ((margin.length() == 4 || margin.length() == 8) && line.contains(")") && line.endsWith("{")) {
+                int end = i;
+                while (end < lines.size() && !lines.get(end).equals(margin + "}")) {
+                    end++;
+                }
+                Check.equal(line + (end - i <= 60), line + true);
+            }
+        }
     }
 
     private static void source() throws IOException {
-        String text = Files.readString(Path.of("src/main/java/MemoryCourt.java"), StandardCharsets.ISO_8859_1);
+        String text = Files.readString(PROGRAM, StandardCharsets.ISO_8859_1);
         Check.at("LANGUAGE.md");
         for (int i = 0; i < text.length(); i++) {
             if (text.charAt(i) > 126 || text.charAt(i) < 32 && text.charAt(i) != 10) {

@@ -233,6 +233,18 @@ public final class ForecastEdgeTest {
         }
     }
 
+    // ... how many pages of a loan: up to all pages of the court, and those of this loan alone
+    private static void helpsByPagesOfThisLoan() {
+        for (int pages : new int[] {1, 20, 21, 40, 41, 60, 61, 63, 64}) {
+            MemoryCourt x = Check.court("pages 64;process p;process q;every 3;loan p 64 50;ask q " + pages + " 9;");
+            Check.equal(x.helps(0, 0), pages);
+        }
+        // Only without the broken loan 1 is p not fined, and so not barred.
+        MemoryCourt y = Check.court("pages 9;process p;every 3;loan p 3 50;loan p 4 2;ask p 1 9;ask p 2 9;ask p 9 9;");
+        Check.all("-1 4 -1", y.helps(0, 0), y.helps(1, 0), y.helps(0, 1));
+        Check.all("-1 4 -1", y.helps(1, 2), y.helps(1, 1), y.helps(0, 2));
+    }
+
     // NONE if it is not met then, even if all are given back, or it does not wait.
     private static void helpsNotAtAll() {
         MemoryCourt x = Check.court("pages 9;process p;process q;every 3;patience 1;loan p 9 50;"

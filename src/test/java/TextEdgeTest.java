@@ -144,6 +144,24 @@ public final class TextEdgeTest {
             counted("pages 9;order clean;", 3));
     }
 
+    // "order" ( "first" | "small" | "clean" ): a setting sets its own number, wherever it stands, and no other one.
+    private static void settingSetsItsOwnNumber() {
+        String[] statements = {"every 2;", "base 3;", "fade 4;", "patience 6;", "appeal 7;", "order first;", "order small;", "order clean;"};
+        String[] due = {"0 2 10 20 3 10", "0 5 3 20 3 10", "0 5 10 4 3 10", "0 5 10 20 6 10", "0 5 10 20 3 7", "0 5 10 20 3 10",
+            "1 5 10 20 3 10", "2 5 10 20 3 10"};
+        for (int i = 0; i < due.length; i++) {
+            String rest = " 4 1 1 0 1 1 0 0 0 0 0 0";
+            Check.equal(Check.counts(Check.court("pages 9;" + statements[i] + "process p;loan p 5 3;ask p 9 9;")), "9 1 0 " + due[i] + rest);
+            Check.equal(Check.counts(Check.court("pages 9;process p;loan p 5 3;ask p 9 9;" + statements[i])), "9 1 0 " + due[i] + rest);
+            // All free pages are there for a loan behind it.
+            Check.equal(Check.parsed("pages 9;process p;" + statements[i] + "loan p 9 1;"), "1 0 -1");
+        }
+        // Behind the loans it holds from the first tick on.
+        MemoryCourt x = Check.court("pages 9;process p;loan p 1 1;every 2;base 100;");
+        x.run(2);
+        Check.equal(Check.fineOf(x, 0), "0 0 1 1 2 1 0 1");
+    }
+
     // Each of these six can stand once.
     private static void sixStandOnce() {
         String[] once = {"every 2;", "base 2;", "fade 2;", "patience 2;", "appeal 2;", "order small;"};
@@ -534,6 +552,38 @@ public final class TextEdgeTest {
         }
         Check.equal(Check.fineOf(x, 0), "0 0 1 4 5 1 0 1");
         Check.equal(x.evidence(0), 0);
+    }
+
+    // ... there was no hearing: what a forecast saw of the court before is not there either.
+    private static void parseBeginsAnewBehindForecasts() {
+        // At 2 loan 0 is taken back for u; up to 40 the loans 1 to 3 are fined, and the claims of p and q are put off.
+        String used = "pages 9;process p;process q;process u;every 2;patience 20;order small;loan p 2 1;loan p 1 2;loan p 1 3;loan q 3 4;"
+            + "ask p 1 1;ask q 9 9;ask u 4 99;";
+        String text = "pages 9;process r;process s;every 5;loan r 1 4;loan s 2 9;loan r 1 3;ask s 2 9;ask s 9 1;";
+        for (int forecast = 0; forecast < 7; forecast++) {
+            MemoryCourt x = Check.court(used), fresh = Check.court(text);
+            switch (forecast) {
+                case 0: x.freeIn(40); break;
+                case 1: x.processIn(0, 40, 0); break;
+                case 2: x.metIn(1, 40); break;
+                case 3: x.refusedIn(1, 40); break;
+                case 4: x.bestOrder(40); break;
+                case 5: x.run(8); x.wouldPay(0); break;
+                default: x.run(8); x.helps(0, 1); break;
+            }
+            Check.input(x, text);
+            Check.equal(x.parse(), 2);
+            Check.equal(Check.counts(x), "9 2 0 0 5 10 20 3 10 5 3 3 0 2 2 0 0 0 0 0 0");
+            for (int i = 0; i < 3; i++) {
+                Check.equal(Check.loanOf(x, i), Check.loanOf(fresh, i));
+            }
+            Check.equal(Check.claimOf(x, 0) + "|" + Check.processOf(x, 1), "1 2 9 0 0 -1 0|0 0 0 2 1 0 2 0 0 0");
+            // At 5 the weights are 1 and 2; the claim of s becomes loan 3, which is not fined.
+            Check.all("2 0 1 0 1", x.wouldPay(0), x.wouldPay(1), x.wouldFine(0), x.wouldFine(1), x.wouldFine(2));
+            Check.equal(x.run(5), 1);
+            Check.equal(Check.fineOf(x, 0) + "|" + Check.fineOf(x, 1), "0 0 1 4 5 1 0 1|0 2 2 3 5 1 0 1");
+            Check.all("1 2 14 5 0 0 0 2 0 1", Check.loanOf(x, 3), x.count(19), x.claim(1, 4));
+        }
     }
 
     // NONE if the text has an error, in which case everything but the buffer and the error is kept.

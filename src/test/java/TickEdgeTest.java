@@ -29,6 +29,37 @@ public final class TickEdgeTest {
         Check.equal(Check.pages(x), "03333234");
     }
 
+    // A page is free or belongs to a loan.
+    private static void pageIsFreeOrOfALoan() {
+        MemoryCourt x = Check.court("pages 9;process p;process q;every 2;loan p 3 1;loan q 2 9;loan p 1 1;ask q 6 1;ask p 1 4;");
+        pagesAreShared(x);
+        x.giveBack(1, 1);
+        pagesAreShared(x);
+        x.run(2);
+        pagesAreShared(x);
+        x.run(8);
+        pagesAreShared(x);
+        x.undo();
+        pagesAreShared(x);
+    }
+
+    /** Each page is free, or stands once among those of its loan; loans have no other pages. */
+    private static void pagesAreShared(MemoryCourt x) {
+        int free = 0, shared = 0;
+        for (int page = 0; page < x.count(0); page++) {
+            free += x.page(page) == MemoryCourt.NONE ? 1 : 0;
+        }
+        for (int loan = 0; loan < x.count(10); loan++) {
+            int has = x.loan(loan, 1);
+            for (int index = 0; index < has; index++) {
+                Check.equal(x.page(x.pageOf(loan, index)), loan);
+                Check.equal(index == 0 || x.pageOf(loan, index) > x.pageOf(loan, index - 1), true);
+            }
+            shared += has;
+        }
+        Check.all(x.count(0) + " " + x.count(9), free + shared, free);
+    }
+
     // It is open while it has pages.
     private static void loanIsOpenWhileItHasPages() {
         MemoryCourt x = Check.court("pages 9;process p;process q;every 50;loan p 2 49;");
@@ -451,6 +482,30 @@ public final class TickEdgeTest {
         Check.all("0 1 1", x.pageOf(2, 0), x.loan(2, 1), x.loan(2, 6));
     }
 
+    // ... from each one: the pages that it still has, whatever it got.
+    private static void takenFromWhatALoanStillHas() {
+        // Loan 0 got five pages and has two, loan 1 has four; three are free.
+        String text = "pages 9;process p;process q;every 2;loan p 5 1;loan p 4 1;";
+        int[] asked = {3, 4, 5, 6, 7, 8, 9};
+        String[] due = {"2 4 0 0", "1 4 1 0", "0 4 2 0", "0 3 2 1", "0 2 2 2", "0 1 2 3", "0 0 2 4"};
+        for (int i = 0; i < asked.length; i++) {
+            MemoryCourt x = Check.court(text + "ask q " + asked[i] + " 9;");
+            x.giveBack(0, 3);
+            Check.equal(x.run(2), 1);
+            Check.all(due[i], x.loan(0, 1), x.loan(1, 1), x.loan(0, 6), x.loan(1, 6));
+            Check.all(asked[i] - 3 + " " + asked[i], x.count(19), x.loan(2, 1));
+        }
+        MemoryCourt x = Check.court(text + "ask q 8 9;");
+        x.giveBack(0, 3);
+        x.run(2);
+        Check.equal(Check.pages(x), "222221222");
+        // Two claims of one hearing, one behind the other, from the same loan.
+        MemoryCourt y = Check.court(text + "ask q 4 9;ask q 3 9;");
+        y.giveBack(0, 3);
+        Check.all("2 0 2 2 2 4", y.run(2), y.loan(0, 1), y.loan(1, 1), y.loan(0, 6), y.loan(1, 6), y.count(19));
+        Check.equal(Check.pages(y), "322221133");
+    }
+
     // A claim that is met becomes a loan with the due time T + term.
     private static void dueTimeOfAMetClaim() {
         MemoryCourt x = behind(5, "pages 9;process p;ask p 1 1;ask p 1 99;");
@@ -568,6 +623,35 @@ public final class TickEdgeTest {
         y.stall(0, 99);
         y.run(50);
         Check.all("999 200 799", y.process(0, 1), y.appeal(0), y.process(0, 1));
+    }
+
+    // The bar of the process becomes less ...: that of this process, by this fine, whichever number it has.
+    private static void appealIsOfItsFineAndItsProcess() {
+        // At 22 the fines 40 of p and 41 of q are 2 each, as all before but the first two; q was stalled in this tick.
+        String text = "pages 4;process p;process q;every 1;base 100;fade 99;appeal 99;order small;loan p 1 1;loan q 1 1;";
+        MemoryCourt x = behind(21, text);
+        x.stall(1, 1);
+        x.run(1);
+        Check.all("42 21 21 21 21", x.count(18), x.process(0, 0), x.process(0, 1), x.process(1, 0), x.process(1, 1));
+        Check.all("0 1 0 2", x.evidence(40), x.evidence(41), x.wouldAppeal(40), x.wouldAppeal(41));
+        Check.equal(x.appeal(41), 2);
+        Check.all("21 21 20 19", x.process(0, 0), x.process(0, 1), x.process(1, 0), x.process(1, 1));
+        Check.equal(Check.fineOf(x, 41), "1 1 1 21 22 0 1 2");
+        Check.equal(Check.fineOf(x, 40), "0 0 1 21 22 2 0 2");
+        Check.equal(Check.fineOf(x, 39), "1 1 1 20 21 2 0 2");
+        for (int fine = 2; fine <= 40; fine++) {
+            Check.all("0 true", x.fine(fine, 6), x.fine(fine, 5) == x.fine(fine, 7));
+        }
+        Check.noState(() -> x.appeal(41));
+        // Two fines of p, one behind the other; those of q between them stay.
+        MemoryCourt y = behind(20, text);
+        y.stall(0, 2);
+        y.run(1);
+        Check.all("40 1 0 2", y.count(18), y.evidence(38), y.evidence(39), y.appeal(38));
+        y.run(1);
+        Check.all("1 2 1 0", y.fine(38, 6), y.appeal(40), y.fine(40, 6), y.fine(39, 6));
+        // The bar: 20 at 21, 2 less; 1 less and 2 more at 22, and 2 less again.
+        Check.all("19 17 21 21", y.process(0, 0), y.process(0, 1), y.process(1, 0), y.process(1, 1));
     }
 
     // ..., the record by weight * evidence / length, rounded down; both are at least 0.

@@ -475,6 +475,15 @@ public final class ViewEdgeTest {
         Check.equal(y.worst(), 7);
     }
 
+    // Returns the process with the greatest record: among all, however small the other numbers of the court are.
+    private static void worstOfAll() {
+        String names = "process a;process b;process c;process d;process e;process f;process g;process h;";
+        for (int process = 0; process < 8; process++) {
+            String text = "pages 4;every 1;base 1;fade 1;patience 1;appeal 0;" + names + "loan " + (char) ('a' + process) + " 4 1;";
+            Check.all("4 " + process, behind(2, text).process(process, 0), behind(2, text).worst());
+        }
+    }
+
     // Returns the mean; 0 if no loan is broken.
     private static void meanLateOfBrokenLoans() {
         Check.equal(new MemoryCourt().meanLate(), 0.0);
