@@ -556,20 +556,20 @@ public final class TextEdgeTest {
 
     // ... there was no hearing: what a forecast saw of the court before is not there either.
     private static void parseBeginsAnewBehindForecasts() {
-        // At 2 loan 0 is taken back for u; up to 40 the loans 1 to 3 are fined, and the claims of p and q are put off.
-        String used = "pages 9;process p;process q;process u;every 2;patience 20;order small;loan p 2 1;loan p 1 2;loan p 1 3;loan q 3 4;"
-            + "ask p 1 1;ask q 9 9;ask u 4 99;";
+        // At 2 loan 0 is taken back for u; up to 39 the loans 1 to 4 are fined, and the claims of p and q are put off.
+        String used = "pages 9;process p;process q;process u;every 2;patience 20;order small;"
+            + "loan p 2 1;loan p 1 2;loan p 1 3;loan q 2 4;loan q 1 3;ask p 1 1;ask u 4 99;ask q 9 9;";
         String text = "pages 9;process r;process s;every 5;loan r 1 4;loan s 2 9;loan r 1 3;ask s 2 9;ask s 9 1;";
         for (int forecast = 0; forecast < 7; forecast++) {
             MemoryCourt x = Check.court(used), fresh = Check.court(text);
             switch (forecast) {
-                case 0: x.freeIn(40); break;
-                case 1: x.processIn(0, 40, 0); break;
-                case 2: x.metIn(1, 40); break;
-                case 3: x.refusedIn(1, 40); break;
-                case 4: x.bestOrder(40); break;
+                case 0: x.freeIn(39); break;
+                case 1: x.processIn(0, 39, 0); break;
+                case 2: x.metIn(0, 39); break;
+                case 3: x.refusedIn(2, 39); break;
+                case 4: x.bestOrder(39); break;
                 case 5: x.run(8); x.wouldPay(0); break;
-                default: x.run(8); x.helps(0, 1); break;
+                default: x.run(8); x.helps(0, 2); break;
             }
             Check.input(x, text);
             Check.equal(x.parse(), 2);
@@ -580,7 +580,9 @@ public final class TextEdgeTest {
             Check.equal(Check.claimOf(x, 0) + "|" + Check.processOf(x, 1), "1 2 9 0 0 -1 0|0 0 0 2 1 0 2 0 0 0");
             // At 5 the weights are 1 and 2; the claim of s becomes loan 3, which is not fined.
             Check.all("2 0 1 0 1", x.wouldPay(0), x.wouldPay(1), x.wouldFine(0), x.wouldFine(1), x.wouldFine(2));
+            Check.all("6 0 -1 0.0 9 s 0 0 2@9", x.shortage(), x.overdue(), x.firstBroken(), x.meanLate(), x.printProcess(1), Check.output(x));
             Check.equal(x.run(5), 1);
+            Check.all("6 2 2 1.5 4 2", x.shortage(), x.overdue(), x.firstBroken(), x.meanLate(), x.count(11), x.count(12));
             Check.equal(Check.fineOf(x, 0) + "|" + Check.fineOf(x, 1), "0 0 1 4 5 1 0 1|0 2 2 3 5 1 0 1");
             Check.all("1 2 14 5 0 0 0 2 0 1", Check.loanOf(x, 3), x.count(19), x.claim(1, 4));
         }
